@@ -149,7 +149,7 @@ public final class StatusDesk {
         if (by == null || serial < 0) {
             return BAD;
         }
-        if (by.placeOf(serial) != NONE || !by.hasRoomFor(serial)) {
+        if (by.placeOf(serial) != NONE || by.issued >= MOST_SERIALS) {
             return FULL;
         }
         by.enlist(serial);
@@ -633,14 +633,14 @@ public final class StatusDesk {
             if (divisor <= 0) {
                 return 0;
             }
-            return ((hash >>> 1) % divisor * 2 + (hash & 1)) % divisor;
+            return (((hash >>> 1) % divisor) * 2 + (hash & 1)) % divisor;
         }
 
         static long power(long base, long exponent) {
             long result = 1;
             long square = base % P;
             for (int bit = 0; bit < EXPONENT_BITS; bit++) {
-                if ((exponent >>> bit & 1) == 1) {
+                if (((exponent >>> bit) & 1) == 1) {
                     result = result * square % P;
                 }
                 square = square * square % P;
@@ -653,7 +653,7 @@ public final class StatusDesk {
             long k = 1 + remainder(hashOfBoth(secret, digest), Q - 1);
             long c = remainder(hashOfBoth(power(G, k), digest), Q);
             long z = (k + c * secret) % Q;
-            return c << 32 | z;
+            return (c << 32) | z;
         }
 
         static boolean isRight(long signature, long publicKey, long digest) {
@@ -771,13 +771,13 @@ public final class StatusDesk {
 
         void addLowestFirst(long row, int n) {
             for (int i = 0; i < n; i++) {
-                add((int) (row >>> 8 * i));
+                add((int) (row >>> (8 * i)));
             }
         }
 
         void addHighestFirst(long value, int n) {
             for (int i = n - 1; i >= 0; i--) {
-                add((int) (value >>> 8 * i));
+                add((int) (value >>> (8 * i)));
             }
         }
 
@@ -830,7 +830,7 @@ public final class StatusDesk {
 
         void addInteger(long value) {
             int n = 1;
-            while (n < LONG_BYTES && value >> 8 * n - 1 != 0) {
+            while (n < LONG_BYTES && value >> (8 * n - 1) != 0) {
                 n++;
             }
             int place = open(INTEGER);
@@ -1042,7 +1042,7 @@ public final class StatusDesk {
         }
 
         int sortAhead() {
-            return hasMore() ? data[at] & 255 : NONE;
+            return fault == NONE && at < end ? data[at] & 255 : NONE;
         }
 
         /** Goes in front of what an item has, if it is of this sort and its length fits. */
@@ -1078,7 +1078,7 @@ public final class StatusDesk {
             if (more == 1) {
                 length = data[head] & 255;
             } else if (more == 2) {
-                length = (data[head] & 255) << 8 | data[head + 1] & 255;
+                length = (data[head] & 255) * 256 + (data[head + 1] & 255);
             }
             int shortest = more == 0 ? 0 : more == 1 ? 128 : 256;
             if (length < shortest || head + more + length > end) {
@@ -1190,7 +1190,7 @@ public final class StatusDesk {
         private long number() {
             long value = 0;
             for (int i = 0; i < size; i++) {
-                value = value << 8 | data[at + i] & 255;
+                value = (value << 8) | (data[at + i] & 255);
             }
             at += size;
             return value;
@@ -1241,9 +1241,9 @@ public final class StatusDesk {
             nonceSize = 0;
             scan.open(ROW);
             scan.open(ROW);
-            do {
+            for (int i = 0; i < MOST_IDS && (i == 0 || scan.hasMore()); i++) {
                 ids.read(scan);
-            } while (scan.hasMore() && ids.count < MOST_IDS);
+            }
             scan.close();
             if (scan.hasMore()) {
                 scan.open(TAGGED + 2);
@@ -1286,9 +1286,9 @@ public final class StatusDesk {
                 scan.open(TAGGED);
                 scan.open(ROW);
                 readBodyTop(scan);
-                do {
-                    readSingle(scan, ids.count);
-                } while (scan.hasMore() && ids.count < MOST_IDS);
+                for (int i = 0; i < MOST_IDS && (i == 0 || scan.hasMore()); i++) {
+                    readSingle(scan, i);
+                }
                 readBodyRest(scan);
                 signature = scan.readSignature();
                 readCert(scan);
