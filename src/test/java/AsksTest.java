@@ -22,6 +22,7 @@ public final class AsksTest {
         ask();
         answerStates();
         answerBySigner();
+        answerShortest();
         answerOfOthers();
         answerNoAsk();
         answerRefused();
@@ -163,6 +164,20 @@ public final class AsksTest {
         DUE.is("17: all the time", desk.answer(4, 0, LAST), 0);
     }
 
+    /** A life of one second and a nonce of one byte are there; a serial 0 is one like others. */
+    private static void answerShortest() {
+        StatusDesk desk = desk();
+        desk.issue(0, 0);
+        Texts.feed(desk, Texts.ask(new byte[] {9}, rootId(0)));
+        DUE.is("17: a life of one", desk.answer(0, 2000, 1), 0);
+        byte[] body = Texts.body(Texts.byName(ROOT), 2000, new byte[] {9}, Texts.single(rootId(0), Texts.good(), 2000, 2001));
+        isOut("17: its bytes", desk, Texts.answer(body, Texts.sign(ROOT_SECRET, body), Texts.none()));
+        desk.take();
+        DUE.is("18: serial 0", desk.look(0, 0, 2000, 0, 0), 1);
+        DUE.is("21: is held", desk.hold(), 1);
+        DUE.is("22: and known", desk.held(0, 0, 2001), 1);
+    }
+
     private static void answerOfOthers() {
         StatusDesk desk = desk();
         Texts.feed(desk, Texts.ask(Texts.none(), rootId(50), rootId(7)));
@@ -178,6 +193,12 @@ public final class AsksTest {
         DUE.is("17: a signer's authority", desk.answer(4, 2000, 0), 6);
         DUE.is("17: answers of status 0", desk.told(5), 0);
         DUE.is("17: others", desk.told(6), 4);
+        Texts.feed(desk, Texts.text("two"));
+        desk.signer(1, 778, 60, 0, 100000, 1);
+        Texts.feed(desk, Texts.ask(Texts.none(), otherId(60)));
+        DUE.is("17: a signer of the second", desk.answer(5, 2000, 0), 0);
+        desk.take();
+        DUE.is("18: it is right", desk.look(1, 60, 2000, 0, 0), 1);
         Texts.feed(desk, Texts.ask(Texts.none(), rootId(50), otherId(5)));
         DUE.is("17: one is enough", desk.answer(1, 2000, 0), 0);
     }

@@ -107,6 +107,8 @@ public final class AuthoritiesTest {
         DUE.is("10: at 0, for 0", desk.takeBack(0, 8, 0, 0), 2);
         desk.issue(1, 7);
         DUE.is("10: another's count", desk.takeBack(1, 7, 5, 1), 1);
+        desk.issue(1, 0);
+        DUE.is("10: serial 0", desk.takeBack(1, 0, 5, 1), 2);
     }
 
     private static void lift() {

@@ -146,6 +146,12 @@ public final class LooksTest {
         DUE.is("18: 26 before 27", lookAtCert(desk, cert(ROOT, ROOT_SECRET, 0, 2099, 1), 2100), 26);
         desk.lift(0, 50);
         DUE.is("18: lifted", lookAtCert(desk, lookedUp, 2100), 1);
+        StatusDesk first = new StatusDesk();
+        Texts.feed(first, ROOT);
+        first.authority(ROOT_SECRET);
+        first.issue(0, 50);
+        first.takeBack(0, 50, 0, 1);
+        DUE.is("18: the first on the LIST", lookAtCert(first, lookedUp, 2100), 27);
     }
 
     private static void signatures() {
