@@ -21,7 +21,9 @@ public final class LooksTest {
         certs();
         signatures();
         nonces();
+        nonceOfBefore();
         singles();
+        days();
         times();
         lookRefused();
         passes();
@@ -108,6 +110,8 @@ public final class LooksTest {
         DUE.is("18: or not", look(Texts.answer(named, Texts.sign(ROOT_SECRET, named), wrongCert)), 1);
         DUE.is("18: no cert", look(bySigner(Texts.byKey(SIGNER_KEY), Texts.none())), 23);
         DUE.is("18: another name than the cert's", look(bySigner(Texts.byName(OTHER), cert)), 23);
+        DUE.is("18: another first byte", look(bySigner(Texts.byName(Texts.text("zig")), cert)), 23);
+        DUE.is("18: another last byte", look(bySigner(Texts.byName(Texts.text("siz")), cert)), 23);
         DUE.is("18: a longer one", look(bySigner(Texts.byName(Texts.text("sigg")), cert)), 23);
         DUE.is("18: a shorter one", look(bySigner(Texts.byName(Texts.text("si")), cert)), 23);
         DUE.is("18: another key than the cert's", look(bySigner(Texts.byKey(SIGNER_KEY + 1), cert)), 23);
@@ -197,6 +201,35 @@ public final class LooksTest {
         desk.nonce(0x0201, 2);
         Texts.feed(desk, withNonce(Texts.none()));
         DUE.is("18: 29 before 30", desk.look(0, 8, 2100, 10, 100), 29);
+    }
+
+    /** An answer without a nonce, with that byte where the answer before had its nonce. */
+    private static void nonceOfBefore() {
+        byte[] without = withNonce(Texts.none());
+        int place = withNonce(new byte[1]).length - 11 - 1;
+        byte nonce = without[place];
+        StatusDesk desk = desk();
+        desk.nonce(nonce, 1);
+        DUE.is("18: with it", look(desk, withNonce(new byte[] {nonce})), 1);
+        DUE.is("18: without", look(desk, without), 29);
+    }
+
+    /** What answer() writes as a TIME is read as that TIME, on each day. */
+    private static void days() {
+        StatusDesk desk = desk();
+        for (int day = 0; day < 36525; day++) {
+            if (day % 70 == 0) {
+                desk = desk();
+            }
+            long time = day * 86400L + day * 7919L % 86400;
+            desk.want(0, 7);
+            desk.ask();
+            desk.take();
+            desk.answer(0, time, 0);
+            desk.take();
+            DUE.is("18: at " + time, desk.look(0, 7, time, 0, 0), 1);
+            DUE.is("20: this", desk.found(3), time);
+        }
     }
 
     private static void singles() {
