@@ -349,6 +349,11 @@ public final class EdgesOfAsksTest {
         answer(desk, ask, 5, 2000, 0);
         body = Texts.body(Texts.byKey(Texts.key(ROOT_SECRET)), 2000, Texts.none(), single);
         isOut("a signer that may not, and out of time", desk, Texts.answer(body, Texts.sign(ROOT_SECRET, body), useless));
+        desk.feed('y', 1);
+        desk.signer(1, 99, 51, 0, 0, 0);
+        DUE.is("a signer of the second authority", answer(desk, ask, 6, 2000, 0), 6);
+        DUE.is("of its own", answer(desk, Texts.ask(Texts.none(), otherId(51)), 6, 2000, 0), 0);
+        DUE.is("by which the first's have nothing", answer(desk, Texts.ask(Texts.none(), otherId(51)), 5, 2000, 0), 6);
     }
 
     private static void goodOrNotKnown() {

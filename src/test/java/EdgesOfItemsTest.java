@@ -45,8 +45,10 @@ public final class EdgesOfItemsTest {
         DUE.sentence("CODE status; if that is 0: [0]", EdgesOfItemsTest::statuses);
         DUE.sentence("perhaps", EdgesOfItemsTest::perhaps);
         DUE.sentence("FAULTS: the first item that can't be there", EdgesOfItemsTest::cannotBeThere);
+        DUE.sentence("FAULTS: it is in the wrong one of two", EdgesOfItemsTest::inTheWrongOne);
         DUE.sentence("FAULTS: another sort", EdgesOfItemsTest::otherSorts);
         DUE.sentence("FAULTS: goes beyond what it is in", EdgesOfItemsTest::beyond);
+        DUE.sentence("FAULTS: the length itself goes beyond what it is in", EdgesOfItemsTest::noLength);
         DUE.sentence("FAULTS: the end of what it should be in, if one lacks", EdgesOfItemsTest::lacks);
         DUE.sentence("FAULTS: what stands behind all", EdgesOfItemsTest::behindAll);
         DUE.sentence("FAULTS: the first of several", EdgesOfItemsTest::firstOfSeveral);
@@ -592,6 +594,44 @@ public final class EdgesOfItemsTest {
         }
     }
 
+    /** No byte is another but for lengths: an item takes the next one in, or leaves its own last one out. */
+    private static void inTheWrongOne() {
+        for (int what = 0; what < 3; what++) {
+            for (int[] path : tree(what).paths()) {
+                if (path.length > 0 && tree(what).at(path).parts != null) {
+                    takesIn(what, path);
+                    leavesOut(what, path);
+                }
+            }
+        }
+    }
+
+    private static void takesIn(int what, int[] path) {
+        Tree tree = tree(what);
+        Tree outer = tree.at(Arrays.copyOf(path, path.length - 1));
+        Tree item = tree.at(path);
+        int next = path[path.length - 1] + 1;
+        if (next < outer.parts.size()) {
+            int[] place = Arrays.copyOf(path, path.length + 1);
+            place[path.length] = item.parts.size();
+            item.parts.add(outer.parts.remove(next));
+            isFault("text " + what + ", one more in " + Arrays.toString(path), what, tree, tree.place(place));
+        }
+    }
+
+    private static void leavesOut(int what, int[] path) {
+        Tree tree = tree(what);
+        Tree outer = tree.at(Arrays.copyOf(path, path.length - 1));
+        Tree item = tree.at(path);
+        int last = item.parts.size() - 1;
+        int[] lastPath = Arrays.copyOf(path, path.length + 1);
+        lastPath[path.length] = last;
+        if (!isPerhaps(what, lastPath)) {
+            outer.parts.add(path[path.length - 1] + 1, item.parts.remove(last));
+            isFault("text " + what + ", one less in " + Arrays.toString(path), what, tree, tree.end(path));
+        }
+    }
+
     /** Each item with each other sort: another than those that may be there is a fault at its place. */
     private static void otherSorts() {
         for (int what = 0; what < 3; what++) {
@@ -622,6 +662,24 @@ public final class EdgesOfItemsTest {
                     byte[] shortest = Texts.item(48, new byte[length]);
                     tree.at(path).head = Arrays.copyOfRange(shortest, 1, shortest.length - length);
                     isFault("text " + what + ", beyond at " + Arrays.toString(path), what, tree, tree.place(path));
+                }
+            }
+        }
+    }
+
+    /** Of each item, as the last of what it is in, there is the sort alone, or a part of its length. */
+    private static void noLength() {
+        for (int what = 0; what < 3; what++) {
+            for (int[] path : tree(what).paths()) {
+                for (byte[] length : new byte[][] {{}, {(byte) 129}, {(byte) 130}, {(byte) 130, 1}, {(byte) 131, 0}, {1}, {127}}) {
+                    Tree tree = tree(what);
+                    int[] holder = Arrays.copyOf(path, Math.max(0, path.length - 1));
+                    tree.at(path).raw = Texts.join(new byte[] {(byte) tree.at(path).sort}, length);
+                    if (path.length > 0) {
+                        Tree in = tree.at(holder);
+                        in.parts = in.parts.subList(0, path[path.length - 1] + 1);
+                    }
+                    isFault("text " + what + ", " + length.length + " of the length at " + Arrays.toString(path), what, tree, tree.place(path));
                 }
             }
         }

@@ -1,5 +1,6 @@
 import java.math.BigInteger;
 import java.nio.ByteBuffer;
+import java.time.LocalDate;
 import java.util.Arrays;
 
 /** THE LOOK, HELD FINDS and promises 18 to 22: each sentence that names a boundary has a test of its own. */
@@ -35,6 +36,8 @@ public final class EdgesOfLooksTest {
         DUE.sentence("27 it is LOOKED UP", EdgesOfLooksTest::notLookedUp);
         DUE.sentence("28 the answer's signature is not RIGHT", EdgesOfLooksTest::notRight);
         DUE.sentence("RIGHT, if c and z are below Q", EdgesOfLooksTest::belowQ);
+        DUE.sentence("RIGHT: the least and the largest c", EdgesOfLooksTest::leastAndLargestC);
+        DUE.sentence("RIGHT: the least and the largest z", EdgesOfLooksTest::leastAndLargestZ);
         DUE.sentence("RIGHT for a KEY 2 .. P - 1", EdgesOfLooksTest::oddKeys);
         DUE.sentence("29 the answer has none, or another nonce", EdgesOfLooksTest::nonces);
         DUE.sentence("30 no single has the id (with this authority's HASHES)", EdgesOfLooksTest::noSingle);
@@ -43,6 +46,7 @@ public final class EdgesOfLooksTest {
         DUE.sentence("32 next is before the TIME less the slack", EdgesOfLooksTest::nextTooEarly);
         DUE.sentence("32 or before this", EdgesOfLooksTest::nextBeforeThis);
         DUE.sentence("33 next is not there, and this before the TIME less the age", EdgesOfLooksTest::thisTooOld);
+        DUE.sentence("A TIME as a number is the seconds since the beginning of 2000", EdgesOfLooksTest::timesAsNumbers);
         DUE.sentence("1 good, 2 taken back, 3 not known", EdgesOfLooksTest::states);
         DUE.sentence("the first that is so", EdgesOfLooksTest::firstVerdict);
         DUE.sentence("19: hard: verdict 1 alone; else all but 2, 22, 24 to 28", EdgesOfLooksTest::passes);
@@ -423,28 +427,38 @@ public final class EdgesOfLooksTest {
         long c = right.getInt();
         made.certSignature = signature(c, right.getInt() + Q);
         DUE.is("z of a cert's signature", made.look(), 24);
-        certainZ();
     }
 
-    /** A body for which z is 0, or c is Q - 1, is not found in short time; that z is small or large is. */
-    private static void certainZ() {
-        long least = Q;
-        long most = 0;
+    /** These k were sought: with them c is 0, and Q - 1, for the body of a Made as it is. */
+    private static void leastAndLargestC() {
         Made made = new Made();
-        byte[] nonceOfLeast = {0, 0};
-        byte[] nonceOfMost = {0, 0};
-        for (int i = 0; i < 3000; i++) {
-            made.nonce = new byte[] {(byte) (i >> 8), (byte) i};
-            long z = ByteBuffer.wrap(Texts.sign(made.secret, made.body())).getInt(4);
-            nonceOfLeast = z < least ? made.nonce : nonceOfLeast;
-            nonceOfMost = z > most ? made.nonce : nonceOfMost;
-            least = Math.min(least, z);
-            most = Math.max(most, z);
+        for (long z : new long[] {823695006, 891982071}) {
+            made.signature = signature(0, z);
+            DUE.is("c is 0", made.look(), 1);
+            made.signature = signature(0, z + 1);
+            DUE.is("c is 0, another z", made.look(), 28);
+            made.signature = signature(Q, z);
+            DUE.is("c is Q", made.look(), 28);
         }
-        made.nonce = nonceOfLeast;
-        DUE.is("z " + least, made.look(), 1);
-        made.nonce = nonceOfMost;
-        DUE.is("z " + most, made.look(), 1);
+        made.signature = signature(Q - 1, 140169471 - Made.ROOT_SECRET);
+        DUE.is("c is Q - 1", made.look(), 1);
+        made.signature = signature(2 * Q - 1, 140169471 - Made.ROOT_SECRET);
+        DUE.is("c is 2 Q - 1", made.look(), 28);
+    }
+
+    /** Told by its name, a signer can be given the key for which a wanted z is right. */
+    private static void leastAndLargestZ() {
+        for (long z : new long[] {0, 1, Q - 1}) {
+            Made made = Made.bySigner();
+            made.teller = Texts.byName(Made.SIG);
+            BigInteger c = Texts.hashNumber(Texts.join(Texts.eight(Texts.key(99)), Texts.hashBytes(made.body()))).mod(Texts.Q);
+            BigInteger secret = BigInteger.valueOf(z - 99).multiply(c.modInverse(Texts.Q)).mod(Texts.Q);
+            made.certKey = Texts.key(secret.longValueExact());
+            made.signature = signature(c.longValueExact(), z);
+            DUE.is("z is " + z, made.look(), 1);
+            made.signature = signature(c.longValueExact(), z + Q);
+            DUE.is("z is " + z + " and Q", made.look(), 28);
+        }
     }
 
     /** 2 is -G^((Q + 1) / 2) and P - 1 is -G^0: they are no KEYS of a SECRET, but a cert may have them. */
@@ -602,6 +616,23 @@ public final class EdgesOfLooksTest {
         DUE.is("the largest age", lookAtTimes(LAST - MOST, -1, LAST, 0, MOST), 1);
         DUE.is("before the largest age", lookAtTimes(LAST - MOST - 1, -1, LAST, 0, MOST), 33);
         DUE.is("TIME less age is below 0", lookAtTimes(0, -1, 5, 0, MOST), 1);
+    }
+
+    /** The first and the last second of each month are read as this, as next and as since when. */
+    private static void timesAsNumbers() {
+        for (int month = 0; month < 1200; month++) {
+            LocalDate first = LocalDate.of(2000 + month / 12, 1 + month % 12, 1);
+            long at = first.toEpochDay() * 86400 - LocalDate.of(2000, 1, 1).toEpochDay() * 86400;
+            Made made = new Made();
+            made.at = at;
+            made.next = at + first.lengthOfMonth() * 86400L - 1;
+            made.state = Texts.takenBack(made.next, 1);
+            StatusDesk desk = Made.desk();
+            DUE.is("of " + first, made.look(desk, at), 2);
+            DUE.is("this of " + first, desk.found(3), made.at);
+            DUE.is("next of " + first, desk.found(4), made.next);
+            DUE.is("since when of " + first, desk.found(1), made.next);
+        }
     }
 
     private static void states() {

@@ -8,6 +8,8 @@ final class Tree {
     byte[] has;
     /** What stands for the length, if that is not to be the shortest. */
     byte[] head;
+    /** What stands there instead of an item. */
+    byte[] raw;
     List<Tree> parts;
 
     Tree(int sort, byte[] has) {
@@ -43,6 +45,9 @@ final class Tree {
     }
 
     byte[] bytes() {
+        if (raw != null) {
+            return raw;
+        }
         byte[] inside = inside();
         byte[] shortest = Texts.item(sort, inside);
         return head == null ? shortest : Texts.join(new byte[] {(byte) sort}, head, inside);
