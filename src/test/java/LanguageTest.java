@@ -6,10 +6,10 @@ import java.lang.reflect.Modifier;
 import java.nio.file.Files;
 import java.nio.file.Path;
 import java.util.Arrays;
-import java.util.HashSet;
 import java.util.List;
 import java.util.Set;
 import java.util.TreeSet;
+import java.util.regex.Matcher;
 import java.util.regex.Pattern;
 import java.util.stream.Collectors;
 
@@ -23,10 +23,15 @@ public final class LanguageTest {
         "int ask()", "int answer(int, long, long)", "int look(int, int, long, int, int)", "boolean passes(boolean)",
         "long found(int)", "int hold()", "int held(int, int, long)", "int check(int)", "int clock(long, int)",
         "long hash()", "int key(int, int)", "int told(int)"};
+    private static final Set<String> NAMES = Arrays.stream(FACE)
+            .map(line -> line.substring(line.indexOf(' ') + 1, line.indexOf('('))).collect(Collectors.toSet());
     private static final String[] WORDS = {"throw", "throws", "try", "catch", "finally", "synchronized", "assert",
         "import", "package", "protected", "instanceof", "double", "float", "hashCode", "equals", "toString"};
     private static final Set<Class<?>> CONSTANTS = Set.of(int.class, long.class, boolean.class, char.class,
             String.class, int[].class, long[].class, char[].class, byte[].class);
+
+    private static final Pattern METHOD =
+            Pattern.compile("( {4}| {8})((?!if |for |while |switch )\\w[^=;(]* )?(\\w+)\\([^=;]*\\) \\{");
 
     private LanguageTest() {
     }
@@ -49,6 +54,8 @@ public final class LanguageTest {
             if (!Modifier.isPrivate(method.getModifiers())) {
                 seen.add(signature(method));
                 DUE.is("rule 1: public, " + method, Modifier.isPublic(method.getModifiers()), true);
+            } else {
+                DUE.is("rule 1: the name of " + method, NAMES.contains(method.getName()), false);
             }
         }
         DUE.is("rule 1: the face, " + seen, seen.equals(new TreeSet<>(Arrays.asList(FACE))), true);
@@ -66,10 +73,6 @@ public final class LanguageTest {
     }
 
     private static void classes() {
-        Set<String> names = new HashSet<>();
-        for (String line : FACE) {
-            names.add(line.substring(line.indexOf(' ') + 1, line.indexOf('(')));
-        }
         Class<?>[] inside = StatusDesk.class.getDeclaredClasses();
         DUE.is("rule 11: classes", inside.length + 1 <= 12, true);
         for (Class<?> one : inside) {
@@ -77,7 +80,7 @@ public final class LanguageTest {
             DUE.is("rule 1: " + one, Modifier.isStatic(modifiers) && !Modifier.isPublic(modifiers)
                     && !Modifier.isProtected(modifiers), true);
             for (Method method : one.getDeclaredMethods()) {
-                DUE.is("rule 1: the name of " + method, names.contains(method.getName()), false);
+                DUE.is("rule 1: the name of " + method, NAMES.contains(method.getName()), false);
             }
             isSmall(one);
         }
@@ -108,16 +111,36 @@ public final class LanguageTest {
             DUE.is("rules 2, 4, 5: " + sign, code.contains(sign), false);
         }
         DUE.is("rule 3: texts", text.chars().allMatch(c -> c < 256), true);
-        int begun = 0;
-        int line = 0;
-        for (String row : text.split("\n")) {
-            line++;
-            boolean method = row.matches("^ {4}( {4})?\\w[^=;]*\\) \\{$") && !row.matches("^ *(if|for|while|switch)\\b.*");
-            begun = method ? line : begun;
-            if (row.matches("^ {4}( {4})?\\}$") && begun > 0) {
-                DUE.is("rule 11: the method at line " + begun, line - begun <= 60, true);
-                begun = 0;
+        methods(text.split("\n"));
+    }
+
+    /** A method's last line is the first brace that stands as far in as its first line. */
+    private static void methods(String[] rows) {
+        int seen = 0;
+        for (int first = 0; first < rows.length; first++) {
+            Matcher head = METHOD.matcher(rows[first]);
+            if (head.matches()) {
+                int last = first + 1;
+                while (last < rows.length && !rows[last].equals(head.group(1) + "}")) {
+                    last++;
+                }
+                boolean isConstructor = Character.isUpperCase(head.group(3).charAt(0));
+                method(rows, first, last, isConstructor);
+                seen += isConstructor ? 0 : 1;
             }
+        }
+        int all = StatusDesk.class.getDeclaredMethods().length;
+        for (Class<?> one : StatusDesk.class.getDeclaredClasses()) {
+            all += one.getDeclaredMethods().length;
+        }
+        DUE.is("methods seen in the source", seen, all);
+    }
+
+    private static void method(String[] rows, int first, int last, boolean isConstructor) {
+        DUE.is("rule 11: the method at line " + (first + 1), last - first <= 60, true);
+        for (int i = first; i < last; i++) {
+            boolean makes = Pattern.compile("\\bnew\\b").matcher(rows[i].replaceAll("//.*|^ *\\*.*", "")).find();
+            DUE.is("rule 12: a row is made in constructors alone, line " + (i + 1), makes && !isConstructor, false);
         }
     }
 }
